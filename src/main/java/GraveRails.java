@@ -727,12 +727,10 @@ public final class GraveRails {
             System.arraycopy(other.floodYear, 0, floodYear, 0, MOST_FLOODS);
         }
 
-        /** As another one, without its GRAVES and FLOODS. */
+        /** As another one, without its GRAVES and FLOODS: for one that never has any. */
         void becomeBare(Yard other) {
-            clear();
             lanes = other.lanes;
             cells = other.cells;
-            roots = other.roots;
             System.arraycopy(other.rootYears, 0, rootYears, 0, MOST_LANES * MOST_CELLS);
         }
 
@@ -1245,7 +1243,10 @@ public final class GraveRails {
         }
 
         int graveAt(int l, int c) {
-            for (int g = 0; c >= 0 && g < graves && g < PLOTS; g++) {
+            if (c < 0) {
+                return NONE;
+            }
+            for (int g = 0; g < graves && g < PLOTS; g++) {
                 if (cell[g] == c && lane[g] == l) {
                     return g;
                 }
@@ -1291,6 +1292,7 @@ public final class GraveRails {
         private Rule rule;
         private boolean flood;
         private final int[] turns = new int[PLOTS];
+        private final int[] places = new int[PLOTS];
         private int turnCount;
         private final long[] words = new long[WORDS];
 
@@ -1350,23 +1352,18 @@ public final class GraveRails {
             turnCount = 0;
             for (int g = 0; g < state.graves && turnCount < PLOTS; g++) {
                 if (state.lies(g)) {
+                    int place = state.cell[g] * MOST_LANES + state.lane[g];
                     int i = turnCount;
-                    while (i > 0 && isSooner(g, turns[i - 1])) {
+                    while (i > 0 && places[i - 1] > place) {
+                        places[i] = places[i - 1];
                         turns[i] = turns[i - 1];
                         i--;
                     }
+                    places[i] = place;
                     turns[i] = g;
                     turnCount++;
                 }
             }
-        }
-
-        private boolean isSooner(int one, int other) {
-            if (!state.has(one) || !state.has(other)) {
-                return false;
-            }
-            int nearer = Integer.compare(state.cell[one], state.cell[other]);
-            return nearer < 0 || (nearer == 0 && state.lane[one] < state.lane[other]);
         }
 
         private void takeTurn(int grave) {
@@ -1592,6 +1589,8 @@ public final class GraveRails {
         /** Whether they are those of what is told now: to find them is dear. */
         boolean known;
         int size;
+        /** The YEAR in which they were parted last (NONE: not yet), and what came of it. */
+        private int partedIn = NONE;
         int best;
         int bestAlike;
         private final int[] found = new int[MOST_SETS];
@@ -1616,6 +1615,7 @@ public final class GraveRails {
                     size++;
                 }
             }
+            partedIn = NONE;
             known = true;
         }
 
@@ -1667,10 +1667,14 @@ public final class GraveRails {
 
         /** Finds by whose CELL at the begin of a YEAR the sets part best. */
         void part(int year, Course course) {
+            if (year == partedIn) {
+                return;
+            }
+            partedIn = year;
             Arrays.fill(alike, 0);
             for (int i = 0; i < size && i < found.length; i++) {
                 startWith(found[i], course);
-                for (int y = 0; y < year; y++) {
+                for (int y = 0; y < year && course.state.fallen < course.state.graves; y++) {
                     course.goYear();
                 }
                 countCells(course.state);

@@ -256,6 +256,12 @@ public final class PromisesTest {
         yardFault("Yard 4 20", 0, 0);
         yardFault("yards 4 20", 0, 0);
         yardFault("yar 4 20", 0, 0);
+        yardFault("yardz 4 20", 0, 0);
+        yardFault("yarda 4 20", 0, 0);
+        yardFault("yard{ 4 20", 4, 0);
+        yardFault("yard` 4 20", 4, 0);
+        yardFault("yard 4/ 20", 6, 0);
+        yardFault("yard 4: 20", 6, 0);
         yardFault("yard 0 20", 5, 1);
         yardFault("yard 5 20", 5, 1);
         yardFault("yard 4 1", 7, 1);
@@ -328,9 +334,28 @@ public final class PromisesTest {
         yardFault(forty + ";heave 0", forty.length() + 1, 0);
         yardFault(forty + "; ", forty.length() + 2, 0);
 
+        // what was on the TAPE behind its end is not there any more
+        cutYard("yard 1 23", 8, 0);
+        cutYard("yard 1 2;    ", 9, fault(9, 0));
+        cutYard("yard 1 2  ;heavy", 9, 0);
+        cutYard("yard 1 2", 3, fault(0, 0));
+        cutYard("yard 1 2", 4, fault(4, 0));
+        cutYard("yard 1 2;grave 0 0 plain", 21, fault(19, 0));
+        GraveRails cut = new GraveRails();
+        Checks.type(cut, "go 1 if 2<=3");
+        cut.end(10);
+        due("cut behind <", cut.rule(), fault(10, 0));
+
         String whole = "yard 1 20;grave 0 0 plain" + " ".repeat(375);
         due("400 bytes", Checks.tellYard(new GraveRails(), whole), 1);
         yardFault("yard 1 2;" + " ".repeat(391), 400, 0);
+    }
+
+    private static void cutYard(String text, int n, int want) {
+        GraveRails x = new GraveRails();
+        Checks.type(x, text);
+        x.end(n);
+        due("yard of " + n + " of \"" + text + "\"", x.yard(), want);
     }
 
     // ---- promise 5
@@ -385,6 +410,8 @@ public final class PromisesTest {
         ruleFault("go 1;;go 1", 5, 0);
         ruleFault("go 1; stop", 6, 0);
         ruleFault("goage", 0, 0);
+        ruleFault("goz 1", 0, 0);
+        ruleFault("go 1 ifz 1<2", 5, 0);
         ruleFault("go 100000", 3, 1);
         ruleFault("go 000001", 3, 1);
         ruleFault("go 1 000001", 5, 0);
@@ -1256,6 +1283,10 @@ public final class PromisesTest {
         due("by the rule", x.begin(0, 0), 2);
         due("by the rule", x.begin(0, 1), 1);
         due("by the rule", x.begin(0, 2), 8);
+        // 200 YEARS are looked at, the first one is now
+        due("in the last", of("yard 2 2;grave 0 0 plain", "go 1 if year=199;go 0").begin(0, 0), 1);
+        due("not in 200", of("yard 2 2;grave 0 0 plain", "go 1 if year=200;go 0").begin(0, 0), 0);
+        due("in the first", of("yard 2 2;grave 0 0 plain").begin(0, 0), 1);
         int[][] without = {{-1, 0}, {10, 0}, {0, -1}, {0, 3}, {MOST, 0}, {LEAST, 0}, {0, MOST}, {0, LEAST}};
         for (int[] n : without) {
             due("begin without", x.begin(n[0], n[1]), -1);
@@ -1446,12 +1477,29 @@ public final class PromisesTest {
         GraveRails y = of("yard 1 2");
         y.dig(0, 0, 0);
         due("no GRAVE of the text", y.look(0, 0), -2);
+        // ten, the last one in the last CELL
+        StringBuilder s = new StringBuilder("yard 4 20");
+        for (int i = 0; i < 10; i++) {
+            s.append(";grave ").append(i % 4).append(' ').append(10 + i).append(" stands");
+        }
+        y = of(s.toString());
+        due("ten that stand", y.look(0, 0), 0);
+        due("ten that stand", y.look(99, 0), 0);
+        due("ten that stand", y.look(0, 1), 1);
         // of the text, not of now
         y = of("yard 2 9;grave 0 8 plain;grave 1 8 plain");
         y.dig(0, 7, 3);
         pass(y, 20);
         due("of the text", y.look(1, 0), 0);
         due("of the text", y.look(1, 1), 2);
+        // asked again for one YEAR when other things are told
+        y.sight(0, 6, 1);
+        due("0 is known", y.look(1, 0), 1);
+        due("0 is known", y.look(1, 1), 1);
+        Checks.tellYard(y, "yard 1 9;grave 0 8 child;grave 0 3 plain");
+        due("another yard", y.look(1, 0), 1);
+        y.force(Checks.tellRule(y, "go 0"));
+        due("by a rule", y.look(1, 0), 0);
         // by CELLS: who is behind both tells most
         y = of("yard 1 20;grave 0 10 plain;grave 0 13 plain");
         due("0 parts in two", y.look(4, 1), 2);
@@ -1651,9 +1699,27 @@ public final class PromisesTest {
         due("back: held", x.grave(2, 3), 4);
         due("back: fall", x.fall(3), fall);
         due("back: SIGHT", x.unpaid(0), 4);
+        // its SIGHTS by what they are: 0 was in 4 at the begin of 0, that others took the place of
+        x.sight(-1, 0, 0);
+        x.sight(2, 7, 1);
+        x.sight(2, 3, 1);
+        due("other SIGHTS", x.unpaid(0), 0);
+        due("back to SIGHTS", x.back(0), 2);
+        due("back to SIGHTS", x.unpaid(0), 4);
         x.year();
         due("an ACT", x.count(9), 1);
         due("back again", x.back(0), 2);
+        x.sight(-1, 0, 0);
+        x.sight(2, 7, 1);
+        x.image(1);
+        int[][] others = {{0, 7, 1}, {2, 6, 1}, {2, 7, 2}};
+        for (int[] n : others) {
+            due("a SIGHT that is so", x.unpaid(0), 4);
+            x.sight(-1, 0, 0);
+            x.sight(n[0], n[1], n[2]);
+            due("one that is not", x.unpaid(0), 0);
+            x.back(1);
+        }
         due("nothing can be UNDONE", x.count(9), 0);
         x.end(0);
     }
