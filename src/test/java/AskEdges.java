@@ -276,6 +276,13 @@ final class AskEdges {
             e.due("held", x.dug(kind, 0, 4, 1), 5);
         }
 
+        GraveRails far = Scene.of("yard 4 20;root 3 18 2;root 3 19 9;root 3 0 1");
+        e.due("ROOTS of the last LANE", far.dug(0, 3, 18, 2), 3);
+        e.due("ROOTS of the last LANE", far.dug(0, 3, 17, 1), 4);
+        e.due("ROOTS of CELL 0", far.dug(0, 3, 0, 0), 2);
+        Checks.tellYard(far, "yard 4 20;grave 0 0 plain");
+        e.due("no ROOT any more", far.dug(0, 3, 18, 2), 1);
+
         e.says(20, "DUG of a KIND (0 to 2) what 0: how many, 1: the least, 2: the greatest YEARS ago (-2: none). NONE without these.");
         e.due("none: how many", x.dug(1, 0, 7, 0), 0);
         e.due("none: the least", x.dug(1, 0, 7, 1), -2);
@@ -318,8 +325,11 @@ final class AskEdges {
         GraveRails x = Scene.rich();
         e.due("a third", x.sight(3, 2, 0), 3);
         e.due("the same once more", x.sight(3, 2, 0), 4);
+        x.sight(0, 0, 0);
+        e.due("one that is not so", x.unpaid(0), 0);
         e.due("none", x.sight(-1, 0, 0), 0);
         e.due("none", x.count(8), 0);
+        e.due("all sets again", x.unpaid(0), 4);
         e.due("a first", x.sight(0, 0, 0), 1);
         e.due("none, whatever else", x.sight(-1, -1, 100), 0);
         e.due("none", x.count(8), 0);
@@ -515,6 +525,7 @@ final class AskEdges {
         // YEAR 3: 2 in 17, 16, 15, 14
         looks("the most alike are fewest, by a child", x, 3, 2, 1);
         x.sight(2, 17, 2);
+        looks("of two sets, now known", x, 3, 1, 1);
         looks("of two sets", x, 2, 1, 1);
         looks("of two sets", x, 1, 0, 1);
         x.sight(2, 18, 1);
@@ -788,9 +799,10 @@ final class AskEdges {
         x.dig(0, 5, 3);
         x.frost(0);
         x.sight(-1, 0, 0);
-        x.sight(1, 5, 0);
-        x.sight(1, 1, 1);
+        x.sight(1, 5, 3);
+        x.sight(1, 1, 2);
         x.sight(3, 1, 1);
+        e.due("other SIGHTS, that are not so", x.unpaid(0), 0);
         x.force(0);
         x.seed(99);
         Checks.tellYard(x, "yard 4 20;grave 3 3 plain;grave 3 4 unpaid;pair 0 1;root 0 3 9;heavy 0;flood 1;flood 2");
@@ -798,6 +810,33 @@ final class AskEdges {
         Checks.type(x, "yard 1 9;grave 0 8 child;grave 0 5 unpaid");
         e.due("back", x.back(1), 1);
         e.same("all as in the IMAGE", Scene.traceOf(x), Scene.traceOf(imagedAndBack()));
+
+        x = Scene.of("yard 2 9;grave 0 8 plain;grave 1 8 stands");
+        for (int i = 0; i < 9; i++) {
+            x.sight(1, 8, i);
+        }
+        x.sight(0, 6, 1);
+        e.due("by the tenth SIGHT", x.unpaid(1), 1);
+        x.image(0);
+        x.sight(-1, 0, 0);
+        for (int i = 0; i < 10; i++) {
+            x.sight(1, 8, 0);
+        }
+        e.due("by ten others", x.unpaid(1), 0);
+        x.back(0);
+        e.due("by the tenth SIGHT again", x.unpaid(0), 1);
+        e.due("by the tenth SIGHT again", x.unpaid(1), 1);
+        // each of what a SIGHT tells
+        int[][] others = {{1, 6, 1}, {0, 7, 1}, {0, 6, 2}};
+        x.sight(-1, 0, 0);
+        x.sight(0, 6, 1);
+        x.image(0);
+        for (int[] n : others) {
+            x.sight(-1, 0, 0);
+            x.sight(n[0], n[1], n[2]);
+            x.back(0);
+            sets("back to a SIGHT", x, 1, 1, 0);
+        }
 
         e.says(30, "IMAGES 0 to 3: all but the TAPE and the RULES, as it is (the RULE IN FORCE, too); gone back to, it is as it was"
                 + " (these stay; nothing can be UNDONE then).");

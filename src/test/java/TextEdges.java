@@ -215,6 +215,24 @@ final class TextEdges {
         e.due("none fell", x.count(6), 0);
         e.due("none fell", x.grave(0, 4), -1);
 
+        String round = "yard 2 9;grave 0 6 child;grave 0 5 stands;root 1 5 9";
+        x = Scene.pass(Scene.of(round), 1);
+        e.due("one is held", x.count(7), 1);
+        e.due("one went ROUND", x.count(12), 1);
+        Checks.tellYard(x, round);
+        e.due("none is held", x.count(7), 0);
+        e.due("none went ROUND", x.count(12), 0);
+        e.due("no set but one", x.unpaid(0), 1);
+        Checks.tellYard(x, "yard 2 9;grave 0 6 unpaid;grave 0 5 plain");
+        e.due("other ones to be unpaid", x.unpaid(0), 4);
+        Checks.tellYard(x, round);
+        e.due("no set but one", x.unpaid(0), 1);
+        String full = Scene.rowOf(10, "plain") + ";root 0 0 1;root 0 1 1;root 0 2 1;root 0 3 1;root 0 4 1;root 0 5 1"
+                + ";flood 1;flood 2;flood 3;flood 4;flood 5;flood 6";
+        for (int i = 0; i < 3; i++) {
+            e.due("a full one again", Checks.tellYard(x, full), 10);
+        }
+
         e.says(4, "(YEAR 0, no SIGHTS, nothing to be UNDONE;");
         x = Scene.rich();
         e.due("there was a YEAR", x.count(5), 1);
@@ -481,9 +499,12 @@ final class TextEdges {
         e.due("no second one", y.force(1), -2);
         y.force(0);
         e.due("the first is as it was", y.ahead(0, 1, 1), 16);
-        e.due("the next one has its number", Checks.tellRule(y, "go 4"), 1);
+        for (int i = 0; i < 8; i++) {
+            e.due("a long one", Checks.tellRule(y, "go 1" + "+1".repeat(59) + ";"), fault(123, 0));
+        }
+        e.due("the next one has its number", Checks.tellRule(y, "go 2+2"), 1);
         y.force(1);
-        e.due("nothing of the spoiled one is in it", y.ahead(0, 1, 1), 15);
+        e.due("nothing of the spoiled ones is in it", y.ahead(0, 1, 1), 15);
         e.leavesAll("a FAULT", () -> emptied(Scene.rich()), z -> Checks.tellRule(z, "go 9;go"), fault(7, 0));
         e.leavesAll("a seventh", () -> sixRules("yard 1 4;grave 0 3 plain"), z -> z.rule(), -1);
         e.leavesAll("a seventh, that has a FAULT", () -> sixRules("x"), z -> z.rule(), -1);
@@ -568,6 +589,10 @@ final class TextEdges {
         holds("[" + t + " or " + t + "] and " + f, false);
         holds("not [" + t + " and " + f + "]", true);
         holds("[[" + f + "] or [" + t + "]]", true);
+        holds(t + " and [" + f + "]", false);
+        holds(t + " and not " + t, false);
+        holds(t + " and [" + f + " or " + f + "]", false);
+        holds(t + " and [" + t + " and [" + f + "]]", false);
         ruleFault("go 1 if not^", 0);
         ruleFault("go 1 if [" + t + "^", 0);
         ruleFault("go 1 if [" + t + "^;go 1", 0);
@@ -589,6 +614,9 @@ final class TextEdges {
             for (int i = 0; i < 5; i++) {
                 holds(a + signs[i] + "2", want[i]);
                 holds(a + " " + signs[i] + " 2", want[i]);
+                holds("not " + a + signs[i] + "2", !want[i]);
+                holds(a + signs[i] + "2 and 1<2", want[i]);
+                holds("2<1 or " + a + signs[i] + "2", want[i]);
             }
         }
         ruleFault("go 1 if 1=^<2", 0);
@@ -677,7 +705,15 @@ final class TextEdges {
 
         e.says(5, "WORDS (small letters, as far as these go on) of a GRAVE");
         ruleFault("^goage", 0);
+        ruleFault("^goa 1", 0);
+        ruleFault("^goz 1", 0);
         ruleFault("go ^ages", 0);
+        ruleFault("go ^agea", 0);
+        ruleFault("go ^agez", 0);
+        ruleFault("go age^{", 0);
+        ruleFault("go age^`", 0);
+        ruleFault("go 1/^:", 0);
+        ruleFault("go 1^:", 0);
         ruleFault("go ^ag", 0);
         ruleFault("go ^cellcell", 0);
         ruleFault("go 1 if ^notcell<1", 0);
@@ -787,6 +823,13 @@ final class TextEdges {
         e.due("none", x.grave(2, 1), 18);
         e.due("nearer ones are not", x.grave(3, 1), 9);
         e.due("it falls", x.grave(4, 4), 0);
+        x = Scene.of("yard 2 20;grave 0 19 stands;grave 0 12 plain", "go behind*3");
+        x.year();
+        e.due("GRAVE 0 behind", x.grave(1, 1), 9);
+        x = Scene.of("yard 2 20;grave 0 1 plain;grave 1 12 plain;grave 0 18 plain;flood 0", "go behind");
+        x.year();
+        e.due("who fell is behind none", x.grave(2, 1), 18);
+        e.due("who fell is behind none", x.grave(1, 1), 12);
 
         e.says(5, "flood (1 if it is a YEAR of FLOOD, else 0)");
         x = Scene.of("yard 2 20;grave 0 19 plain;flood 1", "go 2*flood");

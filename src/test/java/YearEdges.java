@@ -310,9 +310,11 @@ final class YearEdges {
         x.year();
         place("the nearer one", x, 1, 0, 3);
         place("the farther one, of a lesser LANE", x, 2, 0, 4);
-        e.due("of one YEAR as they fall", Scene.of("yard 3 9;grave 2 0 plain;grave 1 1 child;grave 0 1 child").order(0), 0);
-        e.due("of one YEAR as they fall", Scene.of("yard 3 9;grave 2 0 plain;grave 1 1 child;grave 0 1 child").order(1), 2);
-        e.due("of one YEAR as they fall", Scene.of("yard 3 9;grave 2 0 plain;grave 1 1 child;grave 0 1 child").order(2), 1);
+        int[] order = {2, 1, 0};
+        for (int k = 0; k < 3; k++) {
+            GraveRails y = Scene.of("yard 4 9;grave 1 1 child;grave 0 1 child;grave 3 0 plain");
+            e.due("the nearest of the last LANE, then by LANES: " + k, y.order(k), order[k]);
+        }
         // ahead of (2), not of (1): the flood takes those who were in the way
         x = Scene.of("yard 1 9;grave 0 1 stands;grave 0 2 child;flood 0");
         x.year();
@@ -711,6 +713,9 @@ final class YearEdges {
         Scene.pass(x, 3);
         e.due("held no more", x.frost(0), 2);
         place("held no more", x, 0, 0, 0);
+        x = Scene.pass(Scene.of("yard 1 12;grave 0 6 plain;root 0 5 1"), 1);
+        e.due("held for one YEAR", x.frost(0), -1);
+        place("held for one YEAR", x, 0, 0, 5);
         // who was told there, or is held no more, did not come: it is not held
         x = Scene.of("yard 1 12;grave 0 0 plain;root 0 0 7;root 0 1 7;grave 0 1 plain;grave 0 9 plain");
         e.due("one", x.frost(0), 1);
