@@ -497,22 +497,29 @@ public final class GraveRails {
     }
 
     public int image(int k) {
-        if (k < 0 || k >= images.length) {
+        World image = imageNumber(k);
+        if (image == null) {
             return NONE;
         }
-        images[k].copyFrom(now);
-        images[k].made = true;
+        image.copyFrom(now);
+        image.made = true;
         return now.state.year;
     }
 
     public int back(int k) {
-        if (k < 0 || k >= images.length || !images[k].made) {
+        World image = imageNumber(k);
+        if (image == null || !image.made) {
             return NONE;
         }
-        now.copyFrom(images[k]);
+        now.copyFrom(image);
         acts.size = 0;
         sets.known = false;
         return now.state.year;
+    }
+
+    /** Made or not; null: there is none such. */
+    private World imageNumber(int k) {
+        return k >= 0 && k < images.length ? images[k] : null;
     }
 
     private void startFromNow() {
@@ -1563,10 +1570,11 @@ public final class GraveRails {
         }
 
         void keep(State state) {
-            if (next < 0 || next >= before.length) {
-                next = 0;
+            State free = nextOne();
+            if (free == null) {
+                return;
             }
-            before[next].copyFrom(state);
+            free.copyFrom(state);
             next = (next + 1) % MOST_UNDONE;
             size = Math.min(size + 1, MOST_UNDONE);
         }
@@ -1577,10 +1585,15 @@ public final class GraveRails {
             }
             next = (next + MOST_UNDONE - 1) % MOST_UNDONE;
             size--;
-            if (next >= 0 && next < before.length) {
-                state.copyFrom(before[next]);
+            State last = nextOne();
+            if (last != null) {
+                state.copyFrom(last);
             }
             return true;
+        }
+
+        private State nextOne() {
+            return next >= 0 && next < before.length ? before[next] : null;
         }
     }
 

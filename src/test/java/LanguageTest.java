@@ -33,7 +33,9 @@ public final class LanguageTest {
     private static void words(String code) {
         String[] banned = {"\\b(throw|throws|try|catch|synchronized|assert|volatile|native|yield|var)\\b", "->", "::",
             "\\w+Exact\\b", "\\b(System\\.(?!arraycopy)|Thread|Random|Object|HashMap|Map|Set|Stream)\\b",
-            "\\b(equals|hashCode|toString)\\s*\\(", "^package ", "@Override", "\\binstanceof\\b.*&&"};
+            "\\b(equals|hashCode|toString)\\s*\\(", "^package ", "@Override", "\\binstanceof\\b.*&&",
+            // an array's element that is an object is taken out and looked at against null before its use
+            "\\]\\s*\\."};
         for (String each : banned) {
             Matcher m = Pattern.compile(each, Pattern.MULTILINE).matcher(code);
             checks.due("not in the language: " + each + (m.find() ? " '" + m.group() + "'" : ""), m.reset().find(), false);
